@@ -469,7 +469,7 @@ public final class OnlyWhatFits {
         for (int o = 0; o < now.people; o++) {
           if (o != now.holder[p] && now.hasRoom(o)) {
             trial.second[p] = o;
-            long worth = teams.worthOfDay(trial);
+            long worth = teams.worthAsWeighed(trial);
             if (worth > most) {
               most = worth;
               found = 10 * p + o;
@@ -623,7 +623,7 @@ public final class OnlyWhatFits {
     }
     int sum = 0;
     for (int d = 0; d < n; d++) {
-      sum += now.worthOf(now.machinesWith(partsOnToldDay(s, d)));
+      sum += now.worthWith(partsOnToldDay(s, d));
     }
     return sum;
   }
@@ -963,10 +963,11 @@ public final class OnlyWhatFits {
       return isEach && (needs[m] & needs[other] & ~doublesWith(set)) == 0;
     }
 
-    int worthOf(int someMachines) {
+    /** The worth of all machines whose needs are all among some parts. */
+    int worthWith(int someParts) {
       int sum = 0;
       for (int m = 0; m < machines; m++) {
-        if ((someMachines & 1 << m) != 0) {
+        if ((needs[m] & ~someParts) == 0) {
           sum += worth[m];
         }
       }
@@ -993,13 +994,13 @@ public final class OnlyWhatFits {
           come |= 1 << o;
         }
       }
-      int worked = machinesWith(partsWith(come));
+      int there = partsWith(come);
       for (int m = 0; m < machines; m++) {
-        if ((worked & 1 << m) != 0) {
+        if ((needs[m] & ~there) == 0) {
           shareOut(needs[m]);
         }
       }
-      return worthOf(worked);
+      return worthWith(there);
     }
 
     /** A draw below 10. */
@@ -1093,11 +1094,16 @@ public final class OnlyWhatFits {
 
     long worthOfDay(Village v) {
       weigh(v);
+      return worthAsWeighed(v);
+    }
+
+    /** A day's worth, if how likely each set comes is known from before: pieces don't change that. */
+    long worthAsWeighed(Village v) {
       gather(v);
       long sum = 0;
       for (int set = 0; set <= v.allPeople(); set++) {
         if (weights[set] != 0) {
-          sum += weights[set] * v.worthOf(v.machinesWith(partsOfSet[set]));
+          sum += weights[set] * v.worthWith(partsOfSet[set]);
         }
       }
       return sum;
@@ -1151,12 +1157,17 @@ public final class OnlyWhatFits {
 
   /** The rules by which holdings tell who holds what. */
   private static final class Rules {
+    /** How many pieces more each of the people can hold, while a holding tells who holds what. */
+    private final int[] room = new int[MOST_PEOPLE];
 
     /** All parts of a village are held anew by a holding. */
     void tellAnew(Village v, int kind, int by) {
       for (int p = 0; p < v.parts; p++) {
         v.holder[p] = NONE;
         v.second[p] = NONE;
+      }
+      for (int o = 0; o < v.people; o++) {
+        room[o] = v.hand[o];
       }
       switch (kind) {
         case KIND_WHOLE:
@@ -1191,7 +1202,7 @@ public final class OnlyWhatFits {
       }
       for (int p = 0; p < v.parts; p++) {
         if (v.holder[p] == NONE) {
-          v.holder[p] = firstWithRoom(v, v.allPeople(), among);
+          v.holder[p] = taken(firstWithRoom(v.allPeople(), among));
         }
       }
     }
@@ -1219,12 +1230,12 @@ public final class OnlyWhatFits {
       }
       for (int p = 0; p < v.parts; p++) {
         if ((needs & 1 << p) != 0 && v.holder[p] == NONE) {
-          int one = firstWithRoom(v, owners, among);
+          int one = firstWithRoom(owners, among);
           if (one == NONE) {
-            one = firstWithRoom(v, v.allPeople(), among);
+            one = firstWithRoom(v.allPeople(), among);
           }
           if (one != NONE) {
-            v.holder[p] = one;
+            v.holder[p] = taken(one);
             owners |= 1 << one;
           }
         }
@@ -1232,13 +1243,21 @@ public final class OnlyWhatFits {
     }
 
     /** The first one with room of a set, and among the first of the people. */
-    private int firstWithRoom(Village v, int set, int among) {
-      for (int o = 0; o < among; o++) {
-        if ((set & 1 << o) != 0 && v.hasRoom(o)) {
+    private int firstWithRoom(int set, int among) {
+      for (int o = 0; o < among && o < MOST_PEOPLE; o++) {
+        if ((set & 1 << o) != 0 && room[o] > 0) {
           return o;
         }
       }
       return NONE;
+    }
+
+    /** The same one, with room for one piece less; NONE stays NONE. */
+    private int taken(int one) {
+      if (one >= 0 && one < MOST_PEOPLE) {
+        room[one]--;
+      }
+      return one;
     }
 
     /** Part by part round and round, from number by on: the one with whom it goes on. */
@@ -1246,7 +1265,7 @@ public final class OnlyWhatFits {
       int next = v.people == 0 ? 0 : by % v.people;
       for (int p = 0; p < v.parts; p++) {
         int one = nextWithRoom(v, next, NONE);
-        v.holder[p] = one;
+        v.holder[p] = taken(one);
         next = one == NONE ? next : one + 1;
       }
       return next;
@@ -1257,7 +1276,7 @@ public final class OnlyWhatFits {
       int next = from;
       for (int p = 0; p < v.parts; p++) {
         int one = nextWithRoom(v, next, v.holder[p]);
-        v.second[p] = one;
+        v.second[p] = taken(one);
         next = one == NONE ? next : one + 1;
       }
     }
@@ -1269,7 +1288,7 @@ public final class OnlyWhatFits {
         if (one >= v.people) {
           one -= v.people;
         }
-        if (one != but && v.hasRoom(one)) {
+        if (one != but && one >= 0 && one < v.people && room[one] > 0) {
           return one;
         }
       }
@@ -1282,12 +1301,12 @@ public final class OnlyWhatFits {
         int found = NONE;
         int least = TENTHS + 1;
         for (int o = 0; o < v.people; o++) {
-          if (v.away[o] < least && v.hasRoom(o)) {
+          if (v.away[o] < least && room[o] > 0) {
             least = v.away[o];
             found = o;
           }
         }
-        v.holder[p] = found;
+        v.holder[p] = taken(found);
       }
     }
   }
@@ -1392,6 +1411,10 @@ public final class OnlyWhatFits {
     private static final int END = 3;
     private static final int NO_TOKEN = 4;
 
+    private static final int BLANKS = 0;
+    private static final int LETTERS = 1;
+    private static final int DIGITS = 2;
+
     private final byte[] bytes = new byte[MOST_BYTES];
     private int size = 0;
     /** The token being looked at: its sort, its first byte's place, the place behind it. */
@@ -1459,7 +1482,7 @@ public final class OnlyWhatFits {
       step();
       if (isWord("by")) {
         step();
-        int one = numberIn(0, MOST_PEOPLE);
+        int one = numberIn(0, v.people - 1);
         if (!v.hasRoom(one)) {
           return false;
         }
@@ -1468,7 +1491,7 @@ public final class OnlyWhatFits {
       }
       if (isWord("second")) {
         step();
-        int one = numberIn(0, MOST_PEOPLE);
+        int one = numberIn(0, v.people - 1);
         if (!v.hasRoom(one)) {
           return false;
         }
@@ -1527,11 +1550,11 @@ public final class OnlyWhatFits {
         step();
       }
       int one = v.addOne(hand, away);
-      if (isWord("cross")) {
+      if (one != NONE && isWord("cross")) {
         v.isCross[one] = true;
         step();
       }
-      return true;
+      return one != NONE;
     }
 
     private boolean readGives(Village v) {
@@ -1568,10 +1591,6 @@ public final class OnlyWhatFits {
         end = start + 1;
       }
     }
-
-    private static final int BLANKS = 0;
-    private static final int LETTERS = 1;
-    private static final int DIGITS = 2;
 
     private static boolean isOf(int group, int b) {
       switch (group) {
