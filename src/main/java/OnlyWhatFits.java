@@ -1321,7 +1321,7 @@ public final class OnlyWhatFits {
     private final int[] room = new int[BEST_PEOPLE];
     /** Owners (bits) of each machine's parts, as far as the parts ahead of a number are given. */
     private final int[][] owners = new int[BEST_PARTS + 1][MOST_MACHINES];
-    /** How likely it is that owners (bits) all come. */
+    /** How likely it is that owners (bits) all come: where nobody is one of them, it stays 0. */
     private final long[] odds = new long[2 * NOBODY];
     private long most = -1;
 
@@ -1333,7 +1333,6 @@ public final class OnlyWhatFits {
       }
       for (int set = 0; set < NOBODY; set++) {
         odds[set] = oddsThatAllCome(v, set);
-        odds[set | NOBODY] = 0;
       }
       for (int o = 0; o < v.people; o++) {
         room[o] = v.hand[o];

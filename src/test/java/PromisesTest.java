@@ -875,6 +875,10 @@ public final class PromisesTest {
     due("spare: part 1 to 2", x.spare(), 12);
     due("NONE isn't refused", x.status(12) + x.status(15), 0);
     due("nothing is given", x.partOf(1, 1), -1);
+    due("a better one away", x.away(0, 10) + x.away(2, 10), 6);
+    due("spare by what is so now: nobody with room comes", x.spare(), -1);
+    due("1 has no room until part 0's second is gone", x.give(0, 2, true), 1);
+    due("spare: part 1 is 1's own", x.spare(), -1);
     OnlyWhatFits cross = village("one 1;one 1 cross;part by 0;machine 1 need 0");
     due("no more than now", cross.spare(), -1);
     due("none at all", new OnlyWhatFits().spare(), -1);
@@ -964,6 +968,11 @@ public final class PromisesTest {
     due("to a better one, both pieces", y.trust(1, 0), 100 - 60);
     holders("nothing is given", y, 0, 1);
     seconds("nothing is given", y, -1, 1);
+    y.give(1, -1, false);
+    y.give(0, -1, false);
+    due("a second piece alone", y.trust(1, 0), 100 - 60);
+    y.give(0, 0, false);
+    y.give(1, 1, false);
     due("to themselves", y.trust(0, 0), BAD_GIFT);
     due("bad", y.trust(0, 2), BAD_GIFT);
     due("bad", y.trust(-1, 0), BAD_GIFT);
