@@ -13,6 +13,9 @@ public final class NeverThrowsTest {
   private static final String[] TEXTS = {"part;", "part by 0;", "one 9;", "one 3 away 4;", "machine 5 need 0 and 1;", "gives 0 0",
     "part", "machine 99 need 2", "and", " 7 ", "$", ";"};
 
+  /** An object is good for so many calls. */
+  private static final int MOST_CALLS = 512;
+
   private static long state = 77;
 
   private static int below(int n) {
@@ -30,14 +33,16 @@ public final class NeverThrowsTest {
     calls.sort(Comparator.comparing(Method::getName));
     for (int run = 0; run < 600; run++) {
       OnlyWhatFits x = new OnlyWhatFits();
-      for (int k = 0; k < 512; k++) {
-        if (below(6) == 0) {
-          String text = TEXTS[below(TEXTS.length)];
-          for (int i = 0; i < text.length(); i++) {
-            x.feed(text.charAt(i), 1);
-          }
-        } else {
+      int made = 0;
+      while (made < MOST_CALLS) {
+        String text = below(6) == 0 ? TEXTS[below(TEXTS.length)] : "";
+        for (int i = 0; i < text.length() && made < MOST_CALLS; i++) {
+          x.feed(text.charAt(i), 1);
+          made++;
+        }
+        if (text.isEmpty()) {
           call(x, calls.get(below(calls.size())), run < 300 ? 12 : NUMBERS.length);
+          made++;
         }
       }
     }

@@ -18,8 +18,13 @@ public final class PromisesTest {
   }
 
   private static OnlyWhatFits fed(OnlyWhatFits x, String text) {
-    for (int i = 0; i < text.length(); i++) {
-      x.feed(text.charAt(i), 1);
+    for (int from = 0; from < text.length(); from += 4) {
+      int n = Math.min(4, text.length() - from);
+      int v = 0;
+      for (int k = 0; k < n; k++) {
+        v = v << 8 | text.charAt(from + k);
+      }
+      x.feed(v, n);
     }
     return x;
   }

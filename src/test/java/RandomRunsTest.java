@@ -10,6 +10,9 @@ import java.util.regex.Pattern;
  */
 public final class RandomRunsTest {
 
+  /** An object is good for 512 calls: a run ends where another text might not be fed within them. */
+  private static final int MOST_CALLS = 512 - 130;
+
   private static long state = 20261118L;
 
   /** A number from 0 on, below n, by a fixed rule: every run of this test makes the same calls. */
@@ -31,7 +34,7 @@ public final class RandomRunsTest {
       List<String> told = new ArrayList<>();
       int most = pick(3, 4, 5, 6, 8);
       int length = 60 + below(200);
-      for (int k = 0; k < length; k++) {
+      for (int k = 0; k < length && told.size() < MOST_CALLS; k++) {
         String bad = oneCall(x, y, most, k, told);
         calls++;
         if (bad != null) {
