@@ -1340,7 +1340,7 @@ public final class OnlyWhatFits {
       for (int m = 0; m < v.machines; m++) {
         owners[0][m] = 0;
       }
-      choose(v, 0);
+      choose(this, v, 0);
     }
 
     int holderOf(int p) {
@@ -1361,22 +1361,22 @@ public final class OnlyWhatFits {
     }
 
     /** Tries all holders of part p and of those behind, nobody first: the first of several is kept. */
-    private void choose(Village v, int p) {
+    private static void choose(Search s, Village v, int p) {
       if (p >= v.parts || p >= BEST_PARTS) {
-        weigh(v, p);
+        s.weigh(v, p);
         return;
       }
       for (int o = NONE; o < v.people; o++) {
         if (o == NONE) {
-          take(v, p, NOBODY);
-          chosen[p] = NONE;
-          choose(v, p + 1);
-        } else if (room[o] > 0) {
-          take(v, p, 1 << o);
-          chosen[p] = o;
-          room[o]--;
-          choose(v, p + 1);
-          room[o]++;
+          s.take(v, p, NOBODY);
+          s.chosen[p] = NONE;
+          choose(s, v, p + 1);
+        } else if (s.room[o] > 0) {
+          s.take(v, p, 1 << o);
+          s.chosen[p] = o;
+          s.room[o]--;
+          choose(s, v, p + 1);
+          s.room[o]++;
         }
       }
     }

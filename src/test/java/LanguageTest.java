@@ -131,7 +131,14 @@ public final class LanguageTest {
       check(lines <= 60, lines + " lines: " + m.group().split("\n")[0].trim());
       String head = m.group().split("\n")[0];
       check(head.split(",").length <= 7, "at most seven parameters: " + head.trim());
+      check(!callsItself(head, m.group()) || head.contains("private static "), "who calls itself is private static: " + head.trim());
     }
     check(found >= 55, "methods are found: " + found);
+  }
+
+  /** Whether a method's name stands before a bracket once more behind its head, not as another object's. */
+  private static boolean callsItself(String head, String method) {
+    Matcher name = Pattern.compile("(\\w+)\\(").matcher(head);
+    return name.find() && Pattern.compile("(?<![.\\w])(this\\.)?" + name.group(1) + "\\(").matcher(method.substring(head.length())).find();
   }
 }
